@@ -7,6 +7,7 @@ public final class RiverHand {
     public static final int BAD = -1, NOT = -2, FULL = -3, STATE = -5, VOID = -2000000000;
 
     private static final int NOTHING_THERE = -11, OTHER_KIND = -12, NO_SUCH_PLACE = -13, SIZE_BELOW_0 = -14;
+    private static final long NO_LONG = -9223372036854775808L;
     private static final int MOST_DAYS = 60, MOST_NEAR_DAYS = 20, WEEK = 7, SHELVES = 6;
     private static final int GONE = 8, CARRIES_A_RING = 5;
     private static final int NOT_READ = 100, MOST_READ = 41;
@@ -137,7 +138,7 @@ public final class RiverHand {
         if (what == 0) {
             return ahead;
         }
-        thought.pass(inForce);
+        thought.pass(1, inForce);
         return signOf(ahead, thought.level[reach]);
     }
 
@@ -161,7 +162,7 @@ public final class RiverHand {
             if (found != 0) {
                 return ofAll ? Integer.numberOfTrailingZeros(found) : n;
             }
-            thought.pass(inForce);
+            thought.pass(1, inForce);
         }
         return NOT;
     }
@@ -177,7 +178,7 @@ public final class RiverHand {
         thought.take(now);
         for (int i = 0; i < n; i++) {
             int ahead = thought.level[reach];
-            thought.pass(inForce);
+            thought.pass(1, inForce);
             int sign = signOf(ahead, thought.level[reach]);
             rises += sign == 1 ? 1 : 0;
             falls += sign == 2 ? 1 : 0;
@@ -195,7 +196,7 @@ public final class RiverHand {
                 return n;
             }
             week[n % WEEK] = levels;
-            thought.pass(inForce);
+            thought.pass(1, inForce);
         }
         return NOT;
     }
@@ -229,7 +230,7 @@ public final class RiverHand {
                 return false;
             }
             came = came || thought.level[told] >= x;
-            thought.pass(inForce);
+            thought.pass(1, inForce);
         }
         return came;
     }
@@ -262,7 +263,7 @@ public final class RiverHand {
         for (int i = 0; i < thought.size; i++) {
             thought.bridge[i] = way >> i & 1;
         }
-        thought.passDays(n, inForce);
+        thought.pass(n, inForce);
     }
 
     // ---- the ring, gauges, answers
@@ -276,7 +277,7 @@ public final class RiverHand {
         int place = reach;
         thought.take(now);
         for (int i = 1; i <= days; i++) {
-            thought.pass(inForce);
+            thought.pass(1, inForce);
             place += thought.went[place] >= CARRIES_A_RING ? 1 : 0;
             if (place >= now.size) {
                 return asksWhen ? i : GONE;
@@ -304,7 +305,7 @@ public final class RiverHand {
             if (reading != NOT_READ && reading != thought.level[reach]) {
                 return i;
             }
-            thought.pass(inForce);
+            thought.pass(1, inForce);
         }
         return NOT;
     }
@@ -337,7 +338,7 @@ public final class RiverHand {
 
     public long hears(int shelf, int part) {
         if (!isShelf(shelf) || !shelves[shelf].isBytes() || part < 0 || part > 1) {
-            return Long.MIN_VALUE;
+            return NO_LONG;
         }
         // Each rise when asked makes it twice as likely, each other SIGN then half; days not asked say nothing.
         int doublings = doublings(shelves[shelf]);
@@ -389,19 +390,15 @@ public final class RiverHand {
             return VOID;
         }
         int first = NOTHING;
-        int best = afterFirst(ab, NOTHING, n, days);
+        int best = played(ab, now.level[one], now.level[other], 1, n, days);
         for (int way = THROWS; way <= TAKES; way++) {
-            int comes = afterFirst(ab, way, n, days);
+            int comes = played(ab, handled(now.level[one], way), now.level[other], 1, n, days);
             if (comes > best) {
                 best = comes;
                 first = way;
             }
         }
         return what == 0 ? best : first;
-    }
-
-    private int afterFirst(int ab, int way, int n, int days) {
-        return played(ab, handled(now.level[ab / 10], way), now.level[ab % 10], 1, n, days);
     }
 
     /** What comes of it if both do their best from the turn-th time on; ab as told, with the LEVELS of both. */
@@ -426,7 +423,7 @@ public final class RiverHand {
         thought.take(now);
         thought.level[ab / 10] = ones;
         thought.level[ab % 10] = others;
-        thought.passDays(days, inForce);
+        thought.pass(days, inForce);
         return thought.level[ab / 10] - thought.level[ab % 10];
     }
 
@@ -451,7 +448,7 @@ public final class RiverHand {
             }
             z = z * 1103515245 + 12345;
             thought.rain[thought.today] = (z >>> 16) % 12 < wet ? (z >>> 8) % 10 : 0;
-            thought.pass(inForce);
+            thought.pass(1, inForce);
             many += Integer.bitCount(thought.overBits() & wanted);
         }
         return many;
@@ -461,7 +458,7 @@ public final class RiverHand {
 
     public int day() {
         thought.take(now);
-        now.pass(inForce);
+        now.pass(1, inForce);
         for (int i = 0; i < now.size; i++) {
             int sign = signOf(thought.level[i], now.level[i]);
             ledNow[RISES] += sign == 1 ? 1 : 0;
@@ -579,7 +576,7 @@ public final class RiverHand {
 
     public long element(int shelf, int i) {
         if (!isShelf(shelf) || !shelves[shelf].isRow() || i < 0 || i >= shelves[shelf].length) {
-            return Long.MIN_VALUE;
+            return NO_LONG;
         }
         return shelves[shelf].elements[i];
     }
@@ -647,7 +644,7 @@ public final class RiverHand {
 
     private void think(int days) {
         thought.take(now);
-        thought.passDays(days, inForce);
+        thought.pass(days, inForce);
     }
 
     private static int signOf(int ahead, int behind) {
@@ -767,21 +764,18 @@ public final class RiverHand {
             today = other.today;
         }
 
-        void pass(Law law) {
-            for (int i = 0; i < size; i++) {
-                went[i] = law.outOf(this, i);
-            }
-            int comes = spring;
-            for (int i = 0; i < size; i++) {
-                level[i] = within(level[i] + rain[today] + comes - went[i], 0, HIGHEST);
-                comes = went[i];
-            }
-            today = (today + 1) % WEEK;
-        }
-
-        void passDays(int days, Law law) {
-            for (int i = 0; i < days; i++) {
-                pass(law);
+        void pass(int days, Law law) {
+            for (int n = 0; n < days; n++) {
+                // All that goes is told ahead of the first LEVEL that changes: the LAW looks at the next REACH, too.
+                for (int i = 0; i < size; i++) {
+                    went[i] = law.outOf(this, i);
+                }
+                int comes = spring;
+                for (int i = 0; i < size; i++) {
+                    level[i] = within(level[i] + rain[today] + comes - went[i], 0, HIGHEST);
+                    comes = went[i];
+                }
+                today = (today + 1) % WEEK;
             }
         }
 
@@ -814,7 +808,8 @@ public final class RiverHand {
     /** A TEXT made ready: numbers stand for themselves, a sign as its negative, each behind what it works on. */
     private static final class Law {
         static final int MOST = LawReader.MOST + 1;
-        static final int END = -';', IF = -'?', NEGATIVE = -'~';
+        // A - ahead of an O needs a code unlike that of the one between two; no TEXT has a ~.
+        static final int END = -';', IF = -'?', NONE_OF = -'!', NEGATIVE = -'~';
         private static final int MOST_GOES = 20;
 
         private final int[] codes;
@@ -848,17 +843,19 @@ public final class RiverHand {
 
         private int workedOut(River river, int reach) {
             int top = 0;
+            boolean counts = true;
             for (int at = 0; at < size; at++) {
                 int code = codes[at];
-                if (code == END) {
+                if (!counts) {
+                    counts = code == END;
+                } else if (code == END) {
                     return top > 0 ? stack[top - 1] : 0;
-                }
-                if (code == IF) {
-                    at = top > 0 && stack[top - 1] != 0 ? at : endBehind(at);
+                } else if (code == IF) {
+                    counts = top > 0 && stack[top - 1] != 0;
                     top = 0;
-                } else if (code == NEGATIVE || code == -'!') {
+                } else if (code == NEGATIVE || code == NONE_OF) {
                     if (top > 0) {
-                        stack[top - 1] = code == NEGATIVE ? -stack[top - 1] : truth(stack[top - 1] == 0);
+                        stack[top - 1] = code == NEGATIVE ? -stack[top - 1] : stack[top - 1] == 0 ? 1 : 0;
                     }
                 } else if (code >= 0 || isName(-code)) {
                     if (top < MOST) {
@@ -870,15 +867,6 @@ public final class RiverHand {
                 }
             }
             return 0;
-        }
-
-        private int endBehind(int at) {
-            for (int i = at; i < size; i++) {
-                if (codes[i] == END) {
-                    return i;
-                }
-            }
-            return size;
         }
 
         static boolean isName(int sign) {
@@ -905,15 +893,15 @@ public final class RiverHand {
         private static int joined(int left, int sign, int right) {
             switch (sign) {
                 case '|':
-                    return truth(left != 0 || right != 0);
+                    return left != 0 || right != 0 ? 1 : 0;
                 case '&':
-                    return truth(left != 0 && right != 0);
+                    return left != 0 && right != 0 ? 1 : 0;
                 case '<':
-                    return truth(left < right);
+                    return left < right ? 1 : 0;
                 case '=':
-                    return truth(left == right);
+                    return left == right ? 1 : 0;
                 case '>':
-                    return truth(left > right);
+                    return left > right ? 1 : 0;
                 case '+':
                     return left + right;
                 case '-':
@@ -925,10 +913,6 @@ public final class RiverHand {
                 default:
                     return right == 0 ? 0 : left % right;
             }
-        }
-
-        private static int truth(boolean so) {
-            return so ? 1 : 0;
         }
     }
 
@@ -1082,7 +1066,7 @@ public final class RiverHand {
                 return either(open + 1) && passes(')');
             }
             boolean good = operand(open + 1);
-            made.add(sign == '-' ? Law.NEGATIVE : -sign);
+            made.add(sign == '-' ? Law.NEGATIVE : Law.NONE_OF);
             return good;
         }
 

@@ -161,6 +161,11 @@ public final class ActsAndShelvesTest {
             hand.put(1, 1, 1L << 40);
             check.due("bit 40, sort " + sort, hand.element(1, 1), sort == 3 ? 1L << 40 : sort == 4 ? 1 : 0);
         }
+        hand.row(1, 4, 1);
+        for (int i = 2; i >= -1; i--) {
+            hand.put(1, 0, i);
+            check.due(i + " as a boolean", hand.element(1, 0), i == 0 ? 0 : 1);
+        }
         hand.row(1, 0, 1);
         hand.put(1, 0, 200);
         check.due("200 as a byte", hand.element(1, 0), -56);

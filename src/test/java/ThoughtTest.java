@@ -198,13 +198,11 @@ public final class ThoughtTest {
         check.due("what -1", hand.bridges(1, -1), RiverHand.BAD);
     }
 
-    /** Of three REACHES only the last lets out, by the BRIDGES of those ahead: each way ends by LEVEL of all alone. */
     private static void bridgesOfLikeOnes() {
         RiverHand hand = Check.river(99, 99, 99);
         Check.law(hand, "0");
         check.due("all alike: none", hand.bridges(5, 1), 0);
         hand.mend(0, 5, 0);
-        // 20 go without a BRIDGE, so both BRIDGES or none leave what goes out of the last alike.
         Check.law(hand, "n=0?b*9;0");
         check.due("one at the last", hand.bridges(1, 1), 4);
         RiverHand two = Check.river(99, 99);
@@ -217,6 +215,24 @@ public final class ThoughtTest {
         two.mend(0, 0, 10);
         check.due("behind one day nothing is out", two.bridges(1, 1), 0);
         check.due("behind two days all is out", two.bridges(2, 1), 3);
+        fewestBehindMore();
+    }
+
+    /**
+     * 5 are lost by BRIDGES 0 and 1 (they come to the last, which is at 99), and by BRIDGE 2 alone (on the second day):
+     * both leave the last OVER, and of like ones that with fewest counts though it comes later.
+     */
+    private static void fewestBehindMore() {
+        RiverHand hand = Check.river(99, 99, 1);
+        hand.mend(0, 5, 0);
+        hand.mend(1, 0, 0);
+        hand.mend(2, 0, 99);
+        hand.mend(2, 3, 1);
+        Check.law(hand, "g>0&d=0?0;b*5");
+        check.due("one, not two", hand.bridges(2, 1), 4);
+        check.due("one OVER", hand.bridges(2, 0), 1);
+        Check.law(hand, "g>0?0;b*5");
+        check.due("two, where the one loses nothing", hand.bridges(2, 1), 3);
     }
 
     private static void nothingChanges() {
