@@ -200,6 +200,40 @@ public final class DeedTest {
         }
         check.due("as it was", hand.of(0, 0), 75);
         check.due("none more", hand.redo(), RiverHand.STATE);
+        fortyOfAllSorts();
+    }
+
+    /** 63 CHANGES of unlike numbers: RAIN of the 7 DAYS by turns with LEVEL and SPRING; the 40 latest are undone. */
+    private static void fortyOfAllSorts() {
+        RiverHand hand = Check.river(60, 60, 60);
+        for (int i = 1; i <= 21; i++) {
+            hand.mend(i % 7, 4, 1 + i % 8);
+            hand.mend(i % 3, 0, 40 + i);
+            hand.mend(0, 5, 1 + i % 9);
+        }
+        check.due("forty", hand.count(3), 40);
+        for (int i = 0; i < 40; i++) {
+            hand.undo();
+        }
+        // 23 stay: seven times three, RAIN of DAY 1 (8 % 7) and LEVEL of REACH 2 (8 % 3).
+        int[] rains = {8, 1, 3, 4, 5, 6, 7};
+        for (int day = 0; day < 7; day++) {
+            check.due("RAIN of " + day, hand.of(day, 4), rains[day]);
+        }
+        check.due("LEVEL 0", hand.of(0, 0), 46);
+        check.due("LEVEL 1", hand.of(1, 0), 47);
+        check.due("LEVEL 2", hand.of(2, 0), 48);
+        check.due("SPRING", hand.of(0, 5), 8);
+        for (int i = 0; i < 40; i++) {
+            hand.redo();
+        }
+        for (int day = 0; day < 7; day++) {
+            check.due("RAIN of " + day, hand.of(day, 4), 1 + (day == 0 ? 21 : 14 + day) % 8);
+        }
+        check.due("LEVEL 0", hand.of(0, 0), 61);
+        check.due("LEVEL 1", hand.of(1, 0), 59);
+        check.due("LEVEL 2", hand.of(2, 0), 60);
+        check.due("SPRING", hand.of(0, 5), 4);
     }
 
     private static void deedsAreNone() {

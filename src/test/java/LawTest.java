@@ -76,6 +76,8 @@ public final class LawTest {
         check.due("six of -", Check.law(hand, "------l"), 1);
         check.due("six of all", Check.law(hand, "-(!(-(l))+l)"), 1);
         check.due("closed again", Check.law(hand, "((-(-(l))))+((((((l))))))-------l"), 1);
+        check.due("six behind ?", Check.law(hand, "((((((l))))))?((((((l))))));------l?!!!!!!l"), 1);
+        fault("l?(((((((l", 8);
         fault("(((((((l)))))))", 6);
         fault("!!!!!!!l", 6);
         fault("l--------l", 8);
@@ -195,6 +197,8 @@ public final class LawTest {
         check.due("a text of 119", Check.law(hand, deep + ";"), -220);
         check.due("a text of 119", Check.law(hand, deep.toString()), 1);
         check.due("60 held at 20", hand.goes(0), 20);
+        check.due("a text of 120", Check.law(hand, "!" + deep), 1);
+        check.due("0 and 59 held at 20", hand.goes(0), 20);
         StringBuilder lines = new StringBuilder("0?1");
         while (lines.length() < 118) {
             lines.append(";!1?1");

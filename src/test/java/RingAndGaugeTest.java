@@ -217,6 +217,15 @@ public final class RingAndGaugeTest {
         hand.mend(0, 5, 0);
         check.due("to take is best", hand.byTurns(1, 101, 1), 1);
         check.due("1 goes", hand.byTurns(1, 101, 0), -1);
+        hand.mend(0, 0, 5);
+        check.due("taken to 0, not below", hand.byTurns(1, 101, 0), 0);
+        // 20 go unless it is at 30: to do nothing is best for both.
+        hand.mend(0, 0, 30);
+        hand.mend(1, 0, 30);
+        Check.law(hand, "l=30?0;20");
+        check.due("both do nothing", hand.byTurns(1, 201, 0), 0);
+        check.due("nothing first", hand.byTurns(1, 201, 1), 2);
+        check.due("nothing thrice", hand.byTurns(1, 301, 0), 0);
     }
 
     private static void byTurnsOfLikeOnes() {

@@ -233,6 +233,9 @@ public final class ThoughtTest {
         check.due("one OVER", hand.bridges(2, 0), 1);
         Check.law(hand, "g>0?0;b*5");
         check.due("two, where the one loses nothing", hand.bridges(2, 1), 3);
+        RiverHand all = Check.river(1, 1, 1, 1, 1, 1, 1, 1);
+        check.due("all eight OVER", all.bridges(1, 0), 8);
+        check.due("least LEVEL of all without a BRIDGE", all.bridges(1, 1), 0);
     }
 
     private static void nothingChanges() {
