@@ -13,7 +13,7 @@ public final class RiverHand {
     private static final int NOT_READ = 100, MOST_READ = 41;
     private static final int MOST_ANSWERS = 20, SURE_ENOUGH = 4;
     private static final int THROWS = 0, TAKES = 1, NOTHING = 2, MOST_TURNS = 5, HANDFUL = 9;
-    private static final int DAYS = 0, RISES = 1, FALLS = 2, FLOODS = 3, GIFTS_GIVEN = 4, LED_NUMBERS = 5;
+    private static final int LED_DAYS = 0, LED_RISES = 1, LED_FALLS = 2, LED_FLOODS = 3, LED_GIFTS = 4, LED_NUMBERS = 5;
 
     private final River now;
     private final River thought;
@@ -461,11 +461,11 @@ public final class RiverHand {
         now.pass(1, inForce);
         for (int i = 0; i < now.size; i++) {
             int sign = signOf(thought.level[i], now.level[i]);
-            ledNow[RISES] += sign == 1 ? 1 : 0;
-            ledNow[FALLS] += sign == 2 ? 1 : 0;
+            ledNow[LED_RISES] += sign == 1 ? 1 : 0;
+            ledNow[LED_FALLS] += sign == 2 ? 1 : 0;
         }
-        ledNow[FLOODS] += Integer.bitCount(now.overBits() & ~thought.overBits());
-        ledNow[DAYS]++;
+        ledNow[LED_FLOODS] += Integer.bitCount(now.overBits() & ~thought.overBits());
+        ledNow[LED_DAYS]++;
         return Integer.bitCount(now.overBits());
     }
 
@@ -478,7 +478,7 @@ public final class RiverHand {
         }
         now.gifts[reach]++;
         now.level[reach] = Math.min(now.level[reach] + v, River.HIGHEST);
-        ledNow[GIFTS_GIVEN]++;
+        ledNow[LED_GIFTS]++;
         return now.level[reach];
     }
 
@@ -499,7 +499,7 @@ public final class RiverHand {
         imaged.take(now);
         System.arraycopy(ledNow, 0, ledImaged, 0, LED_NUMBERS);
         hasImage = true;
-        return ledNow[DAYS];
+        return ledNow[LED_DAYS];
     }
 
     public int back() {
@@ -508,7 +508,7 @@ public final class RiverHand {
         }
         now.takeWhatDeedsChange(imaged);
         System.arraycopy(ledImaged, 0, ledNow, 0, LED_NUMBERS);
-        return ledNow[DAYS];
+        return ledNow[LED_DAYS];
     }
 
     public int undo() {
