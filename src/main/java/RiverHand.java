@@ -58,7 +58,7 @@ public final class RiverHand {
     }
 
     public int reaches(int shelf, int i, int n) {
-        if (!isShelf(shelf) || i < 0 || n < 1 || n > River.MOST) {
+        if (!isShelf(shelf) || n < 1 || n > River.MOST) {
             return BAD;
         }
         Shelf from = shelves[shelf];
@@ -76,7 +76,7 @@ public final class RiverHand {
     }
 
     private boolean reachComesFrom(Shelf from, int place) {
-        if (now.isFull() || place > from.length - 3) {
+        if (now.isFull() || !from.hasPlaces(place, 3)) {
             return false;
         }
         int level = from.small(place);

@@ -139,6 +139,7 @@ public final class RandomRunsTest {
             case "mend2", "gift1", "reach0" -> between(0, 99);
             case "feed0" -> between(0, 255);
             case "row2" -> between(-1, 20);
+            case "reaches1" -> between(-3, 12);
             default -> between(chance < 4 ? -2 : 0, chance < 4 ? 60 : chance < 12 ? 9 : 5);
         };
     }

@@ -7,6 +7,7 @@ public final class ReachesTest {
         reach();
         reachesFromRow();
         reachesThatEnd();
+        reachesFromBelow();
         reachesRefused();
         mendAndOf();
         mendRefused();
@@ -73,6 +74,7 @@ public final class ReachesTest {
     private static void reachesThatEnd() {
         RiverHand hand = new RiverHand();
         check.due("a missing row", hand.reaches(0, 0, 8), 0);
+        check.due("a missing row from below 0", hand.reaches(0, -1, 1), 0);
         Check.bytes(hand, 0, 10, 20, 3, 40, 50);
         check.due("within a three", hand.reaches(0, 0, 2), 1);
         check.due("behind the end", hand.reaches(0, 5, 1), 0);
@@ -92,6 +94,18 @@ public final class ReachesTest {
         check.due("none more", hand.reaches(1, 0, 8), 0);
     }
 
+    private static void reachesFromBelow() {
+        RiverHand hand = new RiverHand();
+        Check.bytes(hand, 0, 10, 50, 1, 10, 50, 1);
+        int[] below = {-1, -2, -3, -4, -6, Integer.MIN_VALUE, Integer.MIN_VALUE + 1};
+        for (int place : below) {
+            check.due("from " + place, hand.reaches(0, place, 1), 0);
+            check.due("eight from " + place, hand.reaches(0, place, 8), 0);
+        }
+        check.due("none came from below 0", hand.count(0), 0);
+        check.due("both from 0", hand.reaches(0, 0, 8), 2);
+    }
+
     private static void reachesRefused() {
         RiverHand hand = new RiverHand();
         Check.bytes(hand, 0, 10, 20, 3);
@@ -102,10 +116,12 @@ public final class ReachesTest {
         check.due("shelf 6", hand.reaches(6, 0, 1), RiverHand.BAD);
         check.due("n 0", hand.reaches(0, 0, 0), RiverHand.BAD);
         check.due("n 9", hand.reaches(0, 0, 9), RiverHand.BAD);
-        check.due("place -1", hand.reaches(0, -1, 1), RiverHand.BAD);
+        check.due("n 9 from below 0", hand.reaches(0, -1, 9), RiverHand.BAD);
         check.due("n 9 of shorts", hand.reaches(1, 0, 9), RiverHand.BAD);
         check.due("shorts", hand.reaches(1, 0, 1), -12);
         check.due("a STEP", hand.reaches(2, 0, 1), -12);
+        check.due("shorts from below 0", hand.reaches(1, -1, 1), -12);
+        check.due("a STEP from below 0", hand.reaches(2, -1, 1), -12);
         check.due("none came", hand.count(0), 0);
     }
 

@@ -136,7 +136,7 @@ final class RiverModel {
     }
 
     int reaches(int shelf, int i, int n) {
-        if (shelf < 0 || shelf > 5 || i < 0 || n < 1 || n > 8) {
+        if (shelf < 0 || shelf > 5 || n < 1 || n > 8) {
             return BAD;
         }
         if (shelves[shelf] != null && !(shelves[shelf] instanceof byte[])) {
