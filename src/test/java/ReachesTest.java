@@ -96,7 +96,8 @@ public final class ReachesTest {
 
     private static void reachesFromBelow() {
         RiverHand hand = new RiverHand();
-        Check.bytes(hand, 0, 10, 50, 1, 10, 50, 1);
+        // Were a place below 0 taken for a 0, a three from -1 on would be so.
+        Check.bytes(hand, 0, 50, 1, 9, 10, 50, 1);
         int[] below = {-1, -2, -3, -4, -6, Integer.MIN_VALUE, Integer.MIN_VALUE + 1};
         for (int place : below) {
             check.due("from " + place, hand.reaches(0, place, 1), 0);
