@@ -331,6 +331,11 @@ public final class EdgesOfDeedTest {
         check.due("SPRING", hand.of(0, SPRING), 9);
         check.due("LEVEL", hand.of(0, LEVEL), 40);
         check.due("the one that was UNDONE is gone", hand.redo(), STATE);
+        hand.undo();
+        hand.undo();
+        hand.mend(0, DAY, 4);
+        check.due("another came behind two", hand.redo(), STATE);
+        check.due("one", hand.count(3), 1);
     }
 
     private static void sameNumberBehind() {
@@ -392,6 +397,25 @@ public final class EdgesOfDeedTest {
         check.due("SPRING", hand.of(0, SPRING), 3);
         check.due("DAY", hand.of(0, DAY), 0);
         check.due("RAIN", hand.of(2, RAIN), 0);
+        forgottenOfUnlikeNumbers();
+    }
+
+    /** 42 CHANGES: six weeks of RAIN, 1 to 6 on each DAY; those of DAYS 0 and 1 in the first week are forgotten. */
+    private static void forgottenOfUnlikeNumbers() {
+        RiverHand hand = new RiverHand();
+        for (int i = 0; i < 42; i++) {
+            hand.mend(i % 7, RAIN, 1 + i / 7);
+        }
+        for (int i = 0; i < 40; i++) {
+            hand.undo();
+        }
+        for (int day = 0; day <= 6; day++) {
+            check.due("RAIN of " + day + ", UNDONE", hand.of(day, RAIN), day <= 1 ? 1 : 0);
+        }
+        for (int i = 2; i < 42; i++) {
+            hand.redo();
+            check.due("RAIN DONE AGAIN", hand.of(i % 7, RAIN), 1 + i / 7);
+        }
     }
 
     private static void deedsAreNone() {

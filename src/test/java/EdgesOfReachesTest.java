@@ -150,6 +150,9 @@ public final class EdgesOfReachesTest {
         Check.law(hand, "n");
         check.due("10 + 3 - 8", hand.later(1, 0, 0), 5);
         check.due("8 + 8 - 0", hand.later(1, 1, 0), 16);
+        Check.law(hand, "n=0?4;n");
+        check.due("10 + 3 - 8, though 4 go from the next one, too", hand.later(1, 0, 0), 5);
+        check.due("8 + 8 - 4", hand.later(1, 1, 0), 12);
         hand.mend(0, RAIN, 7);
         Check.law(hand, "d+r");
         check.due("by DAY 0 and its RAIN: 10 + 7 + 3 - 7", hand.later(1, 0, 0), 13);

@@ -628,6 +628,10 @@ public final class EdgesOfRingAndGaugeTest {
         check.due("taking 9 is worse than nothing", hand.byTurns(1, 101, 0), 0);
         check.due("first nothing", hand.byTurns(1, 101, 1), 2);
         check.due("the other throws not, either", hand.byTurns(1, 201, 0), 0);
+        Check.law(hand, "0");
+        hand.mend(0, LEVEL, 99);
+        check.due("the other throws behind nothing", hand.byTurns(1, 200, 0), 99 - 39);
+        check.due("first nothing", hand.byTurns(1, 200, 1), 2);
     }
 
     private static void firstOfLikeOnes() {
@@ -712,20 +716,21 @@ public final class EdgesOfRingAndGaugeTest {
         seeds(hand);
     }
 
-    /** All numbers of two days by long numbers, cut to 32 bits by hand. */
+    /** Three years of two weeks by long numbers, cut to 32 bits by hand; z goes on from year to year. */
     private static void seeds(RiverHand hand) {
         hand.mend(0, LEVEL, 0);
+        hand.mend(0, BANK, 20);
         for (int seed : new int[] {0, 1, -1, 77, Integer.MAX_VALUE, Integer.MIN_VALUE, 123456789, -987654321}) {
             long z = seed & 0xFFFFFFFFL;
             int level = 0;
             int often = 0;
-            hand.mend(0, BANK, 9);
-            for (int i = 0; i < 14; i++) {
+            for (int i = 0; i < 3 * 14; i++) {
+                level = i % 14 == 0 ? 0 : level;
                 z = z * 1103515245L + 12345L & 0xFFFFFFFFL;
                 level = Math.min(99, level + ((z >> 16) % 12 < 6 ? (int) ((z >> 8) % 10) : 0));
-                often += level >= 9 ? 1 : 0;
+                often += level >= 20 ? 1 : 0;
             }
-            check.due("SEED " + seed, hand.drawn(seed, 11406, 0), often);
+            check.due("SEED " + seed, hand.drawn(seed, 31406, 0), often);
         }
     }
 
@@ -755,6 +760,8 @@ public final class EdgesOfRingAndGaugeTest {
         RiverHand hand = Check.calm(30, 31);
         check.due("each day", hand.drawn(0, 20300, 0), 6);
         check.due("no day", hand.drawn(0, 20300, 1), 0);
+        hand.mend(1, BANK, 30);
+        check.due("each day, the last", hand.drawn(0, 20300, 1), 6);
         hand.mend(0, SPRING, 1);
         hand.mend(0, BANK, 32);
         check.due("behind, not ahead: days 2 and 3", hand.drawn(0, 20300, 0), 4);

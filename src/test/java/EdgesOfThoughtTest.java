@@ -58,7 +58,7 @@ public final class EdgesOfThoughtTest {
         check.says("Behind n days: LEVEL (what 0), SIGN (1; n 1 on) of one. BAD.");
         RiverHand hand = Check.calm(99, 99);
         for (int what : new int[] {-1, 2, Integer.MIN_VALUE, Integer.MAX_VALUE}) {
-            check.due("what " + what, hand.later(1, 0, what), BAD);
+            check.due("what " + what, hand.later(9, 0, what), BAD);
         }
         for (int reach : new int[] {-1, 2, 8, Integer.MIN_VALUE, Integer.MAX_VALUE}) {
             check.due("LEVEL of " + reach, hand.later(1, reach, 0), BAD);
@@ -149,6 +149,10 @@ public final class EdgesOfThoughtTest {
         hand.mend(0, BANK, 52);
         Check.law(hand, "d=2?9;0");
         check.due("first, though it falls behind that", hand.over(0), 2);
+        RiverHand full = Check.calm(99, 99, 99, 99, 99, 99, 99, 40);
+        full.mend(4, RAIN, 9);
+        full.mend(5, RAIN, 1);
+        check.due("the last: 39 behind 5 days, 40 behind 6", full.over(7), 6);
     }
 
     private static void firstOverNot() {
@@ -218,6 +222,11 @@ public final class EdgesOfThoughtTest {
             check.due("on " + n, hand.signs(n, 0, 2), longest[n]);
         }
         check.due("on 60", hand.signs(60, 0, 2), 4);
+        Check.law(hand, "d=1|d=4?5;0");
+        hand.mend(0, LEVEL, 0);
+        check.due("a day of neither parts them", hand.signs(4, 0, 2), 2);
+        Check.law(hand, "d=1|d=4?6;0");
+        check.due("a day of fall parts them", hand.signs(4, 0, 2), 2);
         Check.law(hand, "0");
         hand.mend(0, LEVEL, 0);
         hand.mend(0, SPRING, 1);
@@ -295,6 +304,12 @@ public final class EdgesOfThoughtTest {
         check.due("54 days", hand.still(), NOT);
         hand.mend(0, LEVEL, 53);
         check.due("53 days", hand.still(), 60);
+        // 1, 64; 0, 64 behind the first day; the second falls by one each week from then on.
+        RiverHand two = Check.calm(99, 99);
+        two.mend(0, LEVEL, 1);
+        two.mend(1, LEVEL, 64);
+        Check.law(two, "d=0?1;0");
+        check.due("the first is not as it was behind 7, nor the second behind more", two.still(), NOT);
     }
 
     private static void leastThrown() {
@@ -418,8 +433,20 @@ public final class EdgesOfThoughtTest {
         hand.mend(0, BANK, 31);
         check.due("the other alone", hand.bridges(1, 1), 2);
         check.due("none", hand.bridges(1, 0), 0);
-        RiverHand all = Check.calm(1, 1, 1, 1, 1, 1, 1, 1);
-        check.due("all eight by any way", all.bridges(20, 0), 8);
+        RiverHand all = bridged(1, 1, 1, 1, 1, 1, 1, 1);
+        check.due("all eight by any way", all.bridges(1, 0), 8);
+        check.due("then least LEVEL, by the last", all.bridges(1, 1), 128);
+        fewestOverAheadOfFewestBridges();
+    }
+
+    /** LEVEL of all is 80 by each way; by both BRIDGES 0 and 1 none is OVER, by one alone or none one is. */
+    private static void fewestOverAheadOfFewestBridges() {
+        RiverHand hand = bridged(30, 21, 99);
+        hand.mend(1, LEVEL, 20);
+        hand.mend(2, GIFTS, 1);
+        Check.law(hand, "g>0?0;b*5");
+        check.due("0 and 1", hand.bridges(1, 1), 3);
+        check.due("none is OVER", hand.bridges(1, 0), 0);
     }
 
     private static void thenLeastLevel() {
@@ -432,6 +459,17 @@ public final class EdgesOfThoughtTest {
         hand.mend(0, BANK, 30);
         check.due("fewest OVER is more than least LEVEL", hand.bridges(1, 0), 0);
         check.due("0 must go on", hand.bridges(1, 1), 5);
+        leastLevelAheadOfFewestBridges();
+    }
+
+    /** BRIDGES 0 and 1 together lose 5 into the last, which is at 99; BRIDGE 2 loses nothing. */
+    private static void leastLevelAheadOfFewestBridges() {
+        RiverHand hand = Check.calm(99, 99, 1);
+        hand.mend(1, LEVEL, 0);
+        hand.mend(2, LEVEL, 99);
+        hand.mend(2, GIFTS, 1);
+        Check.law(hand, "g>0?0;b*5");
+        check.due("0 and 1, not 2", hand.bridges(2, 1), 3);
     }
 
     private static void likeBridges() {
@@ -442,7 +480,7 @@ public final class EdgesOfThoughtTest {
         hand.mend(2, LEVEL, 99);
         hand.mend(0, GIFTS, 1);
         hand.mend(1, GIFTS, 1);
-        // 5 are lost by a BRIDGE at 0, as much as by one at 1, for the next one is at 99; 10 by none.
+        // 5 go from 0 by a BRIDGE, of which 1 has room for 2; 5 go from 1, for which 2 has no room.
         Check.law(hand, "g>0?b*5;0");
         hand.mend(1, LEVEL, 97);
         check.due("0 loses 3, 1 loses 5, both 5", hand.bridges(1, 1), 2);
