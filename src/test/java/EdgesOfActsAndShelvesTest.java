@@ -10,6 +10,7 @@ public final class EdgesOfActsAndShelvesTest {
     public static void main(String[] args) {
         fiftyBodies();
         kinds();
+        kindsUnderKinds();
         actsWrap();
         itsNumber();
         stepsOwn();
@@ -30,6 +31,7 @@ public final class EdgesOfActsAndShelvesTest {
         nothingAtFirst();
         sixtyElements();
         zeroAtFirst();
+        sorts();
         lowestBits();
         booleans();
         keep();
@@ -100,6 +102,20 @@ public final class EdgesOfActsAndShelvesTest {
         }
         check.due("BAD ahead of FULL", hand.body(8), BAD);
         check.due("FULL", hand.body(7), RiverHand.FULL);
+    }
+
+    private static void kindsUnderKinds() {
+        check.says("of KINDS: 0 STEP; 1 QUAY under STEP; 2 MAYOR under STEP; 3 SALMON under MAYOR; 4 BANNS under QUAY; 5 CHILD under SALMON; 6 MUD under STEP; 7 ARCH under BANNS.");
+        RiverHand hand = kindsByNumber();
+        int[] above = {STEP, STEP, STEP, MAYOR, QUAY, SALMON, STEP, BANNS};
+        for (int kind = 1; kind <= 7; kind++) {
+            hand.keep(0, kind);
+            check.due(kind + " is under " + above[kind], hand.taken(0, above[kind]), kind);
+            hand.keep(0, above[kind]);
+            check.due(above[kind] + " is not under " + kind, hand.taken(0, kind), -12);
+        }
+        hand.keep(0, ARCH);
+        check.due("ARCH is no MUD, the next one", hand.taken(0, MUD), -12);
     }
 
     private static void actsWrap() {
@@ -344,6 +360,20 @@ public final class EdgesOfActsAndShelvesTest {
             hand.row(0, sort, 3);
             check.due("behind a shorter one", hand.element(0, 2), 0);
         }
+    }
+
+    private static void sorts() {
+        check.says("of 0 bytes, 1 shorts, 2 ints, 3 longs, 4 booleans");
+        RiverHand hand = new RiverHand();
+        long[] due = {-1, 0x7FFF, 0x7FFFFFFF, Long.MAX_VALUE, 1};
+        long[] v = {0x7FFF, 0xFFFF7FFFL, 0xFFFFFFFF7FFFFFFFL, Long.MAX_VALUE, Long.MAX_VALUE};
+        for (int sort = 0; sort <= 4; sort++) {
+            check.due("sort " + sort, hand.row(0, sort, 1), 1);
+            hand.put(0, 0, v[sort]);
+            check.due("of sort " + sort, hand.element(0, 0), due[sort]);
+        }
+        check.due("sort 5", hand.row(0, 5, 1), BAD);
+        check.due("sort -1", hand.row(0, -1, 1), BAD);
     }
 
     private static void lowestBits() {

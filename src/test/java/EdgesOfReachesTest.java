@@ -17,6 +17,7 @@ public final class EdgesOfReachesTest {
         dayOfTheWeek();
         asTheDayBegins();
         rainForEach();
+        lessByWhatGoes();
         withinAtOnce();
         dayBehindSix();
         overAtBank();
@@ -37,6 +38,7 @@ public final class EdgesOfReachesTest {
         goes();
         goesWithoutText();
         fiveHundredAndTwelve();
+        memoryOfItsOwn();
         check.finish();
     }
 
@@ -172,6 +174,16 @@ public final class EdgesOfReachesTest {
         check.due("of DAY 6", hand.later(1, 2, 0), 34);
     }
 
+    private static void lessByWhatGoes() {
+        check.says("and less by what goes from it");
+        RiverHand hand = Check.calm(99, 99);
+        Check.law(hand, "n>0?9;4");
+        check.due("30 - 9", hand.later(1, 0, 0), 21);
+        check.due("30 + 9 - 4", hand.later(1, 1, 0), 35);
+        hand.mend(0, LEVEL, 9);
+        check.due("to 0", hand.later(1, 0, 0), 0);
+    }
+
     private static void withinAtOnce() {
         check.says("(all within 0 .. 99 at once)");
         RiverHand hand = Check.river(99);
@@ -287,7 +299,7 @@ public final class EdgesOfReachesTest {
     }
 
     private static void reachesHowMany() {
-        check.says("REACHES FROM A ROW on a SHELF, from place i on, n (1 .. 8) of them: how many came.");
+        check.says("REACHES FROM A ROW on a SHELF, from place i on, n (1 .. 8) of them: how many came. BAD,");
         RiverHand hand = rowOfThrees(8);
         check.due("n 0", hand.reaches(0, 0, 0), BAD);
         check.due("n -1", hand.reaches(0, 0, -1), BAD);
@@ -503,5 +515,31 @@ public final class EdgesOfReachesTest {
         }
         check.due("the 511th", hand.led(0), 508);
         check.due("the 512th: 508 % 7", hand.of(0, DAY), 4);
+    }
+
+    private static void memoryOfItsOwn() {
+        check.says("All memory is the class's own.");
+        RiverHand one = Check.river(60);
+        RiverHand other = Check.river(60, 60);
+        one.mend(0, LEVEL, 50);
+        one.mend(0, RAIN, 9);
+        Check.law(one, "1");
+        one.feed('2');
+        one.image();
+        one.body(3);
+        one.act(0, 0, 1);
+        one.row(0, 0, 3);
+        one.day();
+        int[] counts = {2, 0, 0, 0, 0, 0};
+        for (int what = 0; what <= 5; what++) {
+            check.due("count(" + what + ") of the other", other.count(what), counts[what]);
+        }
+        check.due("LEVEL of the other", other.of(0, LEVEL), 30);
+        check.due("RAIN of the other", other.of(0, RAIN), 0);
+        check.due("DAY of the other", other.of(0, DAY), 0);
+        check.due("LAW of the other", other.goes(0), 6);
+        check.due("no image of the other", other.back(), RiverHand.STATE);
+        check.due("shelf of the other", other.put(0, 0, 1), -11);
+        check.due("led of the other", other.led(0), 0);
     }
 }

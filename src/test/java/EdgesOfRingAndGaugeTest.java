@@ -22,6 +22,7 @@ public final class EdgesOfRingAndGaugeTest {
         gaugeBytes();
         rains();
         rainsLeast();
+        rainsOfDayNumber();
         levels();
         levelsLeast();
         span();
@@ -265,7 +266,7 @@ public final class EdgesOfRingAndGaugeTest {
     }
 
     private static void rainsLeast() {
-        check.says("RAINS of DAY number: how many (what 0), the least (1; NOT)");
+        check.says("of a told DAY all is so; the least (NOT).");
         RiverHand hand = Check.calm(99);
         Check.bytes(hand, 0, 30, 39);
         check.due("9", hand.fits(0, 0, 0, 1), 9);
@@ -276,6 +277,18 @@ public final class EdgesOfRingAndGaugeTest {
         hand.mend(0, LEVEL, 95);
         Check.bytes(hand, 0, 95, 99);
         check.due("the least of 4 to 9", hand.fits(0, 0, 0, 1), 4);
+    }
+
+    private static void rainsOfDayNumber() {
+        check.says("RAINS of DAY number: how many (what 0), the least (1; NOT)");
+        RiverHand hand = Check.calm(99);
+        hand.mend(2, RAIN, 9);
+        // 3 more on DAY 1, and 9 on DAY 2, as told.
+        Check.bytes(hand, 0, 100, 100, 33, 42);
+        check.due("of DAY 1, how many", hand.fits(0, 0, 1, 0), 1);
+        check.due("of DAY 1, the least", hand.fits(0, 0, 1, 1), 3);
+        check.due("of DAY 2, how many", hand.fits(0, 0, 2, 0), 0);
+        check.due("of DAY 2, the least", hand.fits(0, 0, 2, 1), NOT);
     }
 
     private static void levels() {
@@ -300,13 +313,14 @@ public final class EdgesOfRingAndGaugeTest {
     }
 
     private static void levelsLeast() {
-        check.says("LEVELS of REACH number (2, 3)");
+        check.says("of a told REACH now; the least (NOT).");
         RiverHand hand = Check.calm(99, 99);
         Check.bytes(hand, 0, 100);
         check.due("0", hand.fits(0, 0, 0, 3), 0);
         Check.bytes(hand, 0, 99);
         check.due("99", hand.fits(0, 0, 0, 3), 99);
         check.due("none of the other", hand.fits(0, 0, 1, 3), NOT);
+        check.says("LEVELS of REACH number (2, 3)");
         Check.law(hand, "l/5");
         Check.bytes(hand, 0, 100, 31);
         check.due("the least of 35 to 39", hand.fits(0, 1, 0, 3), 35);

@@ -23,6 +23,7 @@ public final class EdgesOfThoughtTest {
         still();
         stillFirst();
         stillOfAll();
+        stillNot();
         leastThrown();
         thrownHeld();
         hasAtSomeDay();
@@ -310,6 +311,16 @@ public final class EdgesOfThoughtTest {
         two.mend(1, LEVEL, 64);
         Check.law(two, "d=0?1;0");
         check.due("the first is not as it was behind 7, nor the second behind more", two.still(), NOT);
+    }
+
+    private static void stillNot() {
+        check.says("STILL. NOT.");
+        RiverHand hand = Check.calm(99);
+        hand.mend(0, LEVEL, 20);
+        check.due("from the first day on", hand.still(), 7);
+        hand.mend(0, SPRING, 1);
+        check.due("it rises on 60 days", hand.still(), NOT);
+        check.due("to 80", hand.later(60, 0, 0), 80);
     }
 
     private static void leastThrown() {
