@@ -400,22 +400,29 @@ public final class EdgesOfDeedTest {
         forgottenOfUnlikeNumbers();
     }
 
-    /** 42 CHANGES: six weeks of RAIN, 1 to 6 on each DAY; those of DAYS 0 and 1 in the first week are forgotten. */
+    /** 42 CHANGES: six weeks of RAIN, one more each day and each week; those of DAYS 0 and 1 in the first week are forgotten. */
     private static void forgottenOfUnlikeNumbers() {
         RiverHand hand = new RiverHand();
         for (int i = 0; i < 42; i++) {
-            hand.mend(i % 7, RAIN, 1 + i / 7);
+            hand.mend(i % 7, RAIN, rainOfChange(i));
         }
-        for (int i = 0; i < 40; i++) {
+        check.due("40", hand.count(3), 40);
+        for (int i = 41; i >= 2; i--) {
             hand.undo();
+            check.due("RAIN UNDONE", hand.of(i % 7, RAIN), i < 7 ? 0 : rainOfChange(i - 7));
         }
         for (int day = 0; day <= 6; day++) {
-            check.due("RAIN of " + day + ", UNDONE", hand.of(day, RAIN), day <= 1 ? 1 : 0);
+            check.due("RAIN of " + day + ", all UNDONE", hand.of(day, RAIN), day <= 1 ? rainOfChange(day) : 0);
         }
         for (int i = 2; i < 42; i++) {
             hand.redo();
-            check.due("RAIN DONE AGAIN", hand.of(i % 7, RAIN), 1 + i / 7);
+            check.due("RAIN DONE AGAIN", hand.of(i % 7, RAIN), rainOfChange(i));
         }
+    }
+
+    /** 1 to 9, unlike that of the CHANGE ahead of it and that of a week ahead. */
+    private static int rainOfChange(int i) {
+        return 1 + (i % 7 + i / 7) % 9;
     }
 
     private static void deedsAreNone() {

@@ -25,6 +25,7 @@ public final class EdgesOfRingAndGaugeTest {
         rainsOfDayNumber();
         levels();
         levelsLeast();
+        levelsOfReachNumber();
         span();
         fits();
         fitsRefused();
@@ -320,9 +321,14 @@ public final class EdgesOfRingAndGaugeTest {
         Check.bytes(hand, 0, 99);
         check.due("99", hand.fits(0, 0, 0, 3), 99);
         check.due("none of the other", hand.fits(0, 0, 1, 3), NOT);
+    }
+
+    private static void levelsOfReachNumber() {
         check.says("LEVELS of REACH number (2, 3)");
+        RiverHand hand = Check.calm(99, 99);
         Check.law(hand, "l/5");
         Check.bytes(hand, 0, 100, 31);
+        check.due("how many of 35 to 39", hand.fits(0, 1, 0, 2), 5);
         check.due("the least of 35 to 39", hand.fits(0, 1, 0, 3), 35);
         check.due("REACH 2", hand.fits(0, 0, 2, 3), BAD);
         check.due("REACH 6", hand.fits(0, 0, 6, 3), BAD);

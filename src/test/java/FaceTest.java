@@ -4,7 +4,9 @@ import java.lang.reflect.Method;
 import java.lang.reflect.Modifier;
 import java.nio.file.Files;
 import java.nio.file.Path;
+import java.util.ArrayList;
 import java.util.Arrays;
+import java.util.List;
 import java.util.Set;
 import java.util.TreeSet;
 import java.util.regex.Matcher;
@@ -24,6 +26,9 @@ public final class FaceTest {
         constants();
         publicMethods();
         noOtherMembers();
+        classesInside();
+        staticFieldsAreFinal();
+        methodsStayShort();
         sourceKeepsToTheRules();
         check.finish();
     }
@@ -66,35 +71,75 @@ public final class FaceTest {
         Constructor<?>[] constructors = RiverHand.class.getDeclaredConstructors();
         check.due("constructors", constructors.length, 1);
         check.due("the constructor is public", constructors[0].getModifiers(), Modifier.PUBLIC);
-        Set<String> publicNames = new TreeSet<>();
         for (Method method : RiverHand.class.getDeclaredMethods()) {
-            if (Modifier.isPublic(method.getModifiers())) {
-                publicNames.add(method.getName());
-            } else {
+            if (!Modifier.isPublic(method.getModifiers())) {
                 check.due("private " + method.getName(), Modifier.isPrivate(method.getModifiers()) ? 1 : 0, 1);
+                check.due("own name: " + method.getName(), publicNames().contains(method.getName()) ? 1 : 0, 0);
             }
+            check.due("few parameters: " + method.getName(), method.getParameterCount() > 7 ? 1 : 0, 0);
         }
         for (Field field : RiverHand.class.getDeclaredFields()) {
             boolean seen = !Modifier.isPrivate(field.getModifiers()) && !Modifier.isPublic(field.getModifiers());
             check.due("field " + field.getName(), seen ? 1 : 0, 0);
         }
+    }
+
+    private static Set<String> publicNames() {
+        Set<String> names = new TreeSet<>();
+        for (Method method : RiverHand.class.getDeclaredMethods()) {
+            if (Modifier.isPublic(method.getModifiers())) {
+                names.add(method.getName());
+            }
+        }
+        return names;
+    }
+
+    private static void classesInside() {
+        check.due("few classes", RiverHand.class.getDeclaredClasses().length > 11 ? 1 : 0, 0);
         for (Class<?> inside : RiverHand.class.getDeclaredClasses()) {
             check.due(inside + " is static", Modifier.isStatic(inside.getModifiers()) ? 1 : 0, 1);
             long fields = Arrays.stream(inside.getDeclaredFields())
                     .filter(field -> !Modifier.isStatic(field.getModifiers())).count();
             check.due(inside + " has few fields", fields > 20 ? 1 : 0, 0);
             for (Method method : inside.getDeclaredMethods()) {
-                check.due("own name: " + method.getName(), publicNames.contains(method.getName()) ? 1 : 0, 0);
+                check.due("own name: " + method.getName(), publicNames().contains(method.getName()) ? 1 : 0, 0);
                 check.due("few parameters: " + method.getName(), method.getParameterCount() > 7 ? 1 : 0, 0);
             }
         }
+    }
+
+    private static void staticFieldsAreFinal() {
+        List<Class<?>> all = new ArrayList<>(List.of(RiverHand.class.getDeclaredClasses()));
+        all.add(RiverHand.class);
+        for (Class<?> each : all) {
+            for (Field field : each.getDeclaredFields()) {
+                boolean changes = Modifier.isStatic(field.getModifiers()) && !Modifier.isFinal(field.getModifiers());
+                check.due("static field " + field.getName() + " changes", changes ? 1 : 0, 0);
+            }
+        }
+    }
+
+    /** From the line that begins a method to the next brace that stands as far in as that line. */
+    private static void methodsStayShort() throws Exception {
+        List<String> lines = Files.readAllLines(Path.of("src/main/java/RiverHand.java"));
+        Matcher begins = Pattern.compile("( +)[a-z][^;=]*\\) \\{").matcher("");
+        int methods = 0;
+        for (int i = 0; i < lines.size(); i++) {
+            boolean inClass = begins.reset(lines.get(i)).matches() && begins.group(1).length() <= 8;
+            if (inClass && !lines.get(i).matches(" +(if|for|while|switch) .*")) {
+                int length = lines.subList(i, lines.size()).indexOf(begins.group(1) + "}") + 1;
+                check.due(lines.get(i).trim() + " is short", length > 60 ? 1 : 0, 0);
+                methods++;
+            }
+        }
+        check.due("methods were found", methods > 80 ? 1 : 0, 1);
     }
 
     private static void sourceKeepsToTheRules() throws Exception {
         String source = Files.readString(Path.of("src/main/java/RiverHand.java"));
         String code = source.replaceAll("(?s)/\\*.*?\\*/", "").replaceAll("//[^\n]*", "");
         String[] words = {"throw", "throws", "try", "catch", "finally", "synchronized", "assert", "import", "package",
-            "Exact", "System\\.(?!arraycopy)", "->", "::", "Object", "double", "float", "Thread", "var", "default void"};
+            "\\w+Exact\\b", "System\\.(?!arraycopy)", "->", "::", "Object", "double", "float", "Thread", "var", "default void"};
         for (String word : words) {
             String pattern = Character.isLetter(word.charAt(0)) && !word.contains("\\") ? "\\b" + word + "\\b" : word;
             Matcher matcher = Pattern.compile(pattern).matcher(code);
