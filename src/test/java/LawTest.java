@@ -6,6 +6,7 @@ public final class LawTest {
         feed();
         faults();
         openAtOnce();
+        everyNumber();
         worth();
         lines();
         names();
@@ -84,6 +85,18 @@ public final class LawTest {
         fault("-(!(-((l", 6);
         fault("((((((-l", 6);
         fault("!!!!!!(l", 6);
+    }
+
+    /** Each number of 1 to 4 digits stands for itself: none is taken for a sign's code. */
+    private static void everyNumber() {
+        for (int number = 0; number <= 9999; number++) {
+            RiverHand hand = Check.river(60);
+            hand.mend(0, 0, 99);
+            check.due("law of " + number + "%20+1", Check.law(hand, number + "%20+1"), 1);
+            check.due("goes(0) by " + number + "%20+1", hand.goes(0), number % 20 + 1);
+            check.due("law of " + number + "/500", Check.law(hand, number + "/500"), 1);
+            check.due("goes(0) by " + number + "/500", hand.goes(0), number / 500);
+        }
     }
 
     private static void worth(String text, int due) {
